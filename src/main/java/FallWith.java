@@ -448,18 +448,17 @@ public final class FallWith {
         int exempt = exempt();
         // Healing helps only what was done by then and is not sound; all of that has a flaw.
         int hurt = acts.doneBy(day) & ~sound;
-        if ((told & ~acts.most(sound | hurt, exempt)) != 0) {
+        int atMost = acts.most(sound | hurt, exempt);
+        if ((told & ~atMost) != 0) {
             return NONE;
         }
-        // A told act stands only if it is sound itself, so the hurt ones among them are of every set.
-        int sure = hurt & told;
-        int open = hurt & ~told;
-        int best = hurt;
+        int best = hurt & atMost;
+        int sure = indispensable(told, atMost, best, exempt);
+        int open = best & ~sure;
         int some = 0;
-        for (int k = 0; k < 1 << MOST_ACTS; k++) {
+        for (int k = 0; k < 1 << MOST_ACTS && best != sure; k++) {
             int healed = sure | some;
-            if (Integer.bitCount(healed) < Integer.bitCount(best)
-                    && (told & ~acts.most(sound | healed, exempt)) == 0) {
+            if (Integer.bitCount(healed) < Integer.bitCount(best) && allStand(told, sound | healed, exempt)) {
                 best = healed;
             }
             // The next greater part of the open ones; behind the last one 0 comes again.
@@ -469,6 +468,21 @@ public final class FallWith {
             }
         }
         return best;
+    }
+
+    private boolean allStand(int told, int sound, int exempt) {
+        return (told & ~acts.most(sound, exempt)) == 0;
+    }
+
+    /** Those of some acts without which the told ones do not all stand, though all others are sound. */
+    private int indispensable(int told, int sound, int some, int exempt) {
+        int found = 0;
+        for (int act = 0; act < acts.count; act++) {
+            if (contains(some, act) && !allStand(told, without(sound, act), exempt)) {
+                found |= 1 << act;
+            }
+        }
+        return found;
     }
 
     private boolean withstands(int act, int sound, int askable) {
@@ -567,8 +581,8 @@ public final class FallWith {
             row[last] = 0;
             for (int place = 0; place < from.count; place++) {
                 int sign = from.signs[place];
-                if (sign == '|' && last < MOST_ALLS - 1) {
-                    last++;
+                if (sign == '|') {
+                    last = Math.min(last + 1, MOST_ALLS - 1);
                     row[last] = 0;
                 } else if (sign != '+') {
                     row[last] |= 1 << sign - 'a';

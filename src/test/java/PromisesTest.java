@@ -411,6 +411,23 @@ public final class PromisesTest {
         due("13: and what leans on it", x.all(69, 2), 7);
         x.set(2, 0, 1);
         due("13: GOOD is no cure of NOUGHT", x.all(70, 1), 0);
+        longChain();
+    }
+
+    private static void longChain() {
+        FallWith x = withActs(12);
+        for (int k = 0; k < 11; k++) {
+            lean(x, k, String.valueOf((char) ('b' + k)));
+        }
+        due("13: MOST of a chain", x.all(99, 1), 4095);
+        due("13: LEAST of a chain", x.all(99, 2), 4095);
+        x.set(11, 0, 1);
+        due("13: MOST of a chain that broke", x.all(99, 1), 0);
+        due("13: LEAST of a chain that broke", x.all(99, 2), 0);
+        x.set(0, 3, 1);
+        x.law(0, 1);
+        due("13: GOOD of the first", x.all(99, 1), 1);
+        due("13: GOOD of the first", x.all(99, 2), 1);
     }
 
     private static void promise14() {
@@ -469,6 +486,10 @@ public final class PromisesTest {
             lean(y, k, String.valueOf((char) ('b' + k)));
         }
         due("15: a chain of twelve", y.under(0), 4094);
+        FallWith z = withActs(3);
+        lean(z, 2, "a");
+        lean(z, 0, "b");
+        due("15: by way of the first", z.under(2), 3);
     }
 
     private static void promise16() {
@@ -691,6 +712,7 @@ public final class PromisesTest {
         due("20: nothing changed", x.all(9, 0), 48);
         x.set(5, 0, 1);
         due("20: round", x.heal(16, 9, 0), 32);
+        notDoneYet();
         FallWith y = withActs(12);
         for (int k = 0; k < 12; k++) {
             y.set(k, 0, 1);
@@ -701,6 +723,22 @@ public final class PromisesTest {
         y.law(0, 1);
         y.set(11, 3, 1);
         due("20: GOOD", y.heal(2048, 99, 0), 2048);
+    }
+
+    /** Healing is no help for what was not done by then. */
+    private static void notDoneYet() {
+        FallWith x = new FallWith();
+        x.act(50, 0, 1, 1);
+        x.act(1, 0, 1, 1);
+        x.act(1, 0, 1, 1);
+        x.act(1, 0, 1, 1);
+        for (int act = 0; act < 3; act++) {
+            x.set(act, 0, 1);
+        }
+        lean(x, 3, "b+c|a");
+        due("20: the first is not done yet", x.heal(1, 49, 0), NO);
+        due("20: both others", x.heal(8, 49, 0), 6);
+        due("20: the first alone", x.heal(8, 50, 0), 1);
     }
 
     private static void promise21() {
