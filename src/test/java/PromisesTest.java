@@ -739,6 +739,13 @@ public final class PromisesTest {
         due("20: the first is not done yet", x.heal(1, 49, 0), NO);
         due("20: both others", x.heal(8, 49, 0), 6);
         due("20: the first alone", x.heal(8, 50, 0), 1);
+        x.act(1, 0, 1, 1);
+        x.act(1, 0, 1, 1);
+        x.set(4, 0, 1);
+        x.set(5, 0, 1);
+        lean(x, 3, "e+f|b+c|a");
+        due("20: the least of two, the first is not done yet", x.heal(8, 49, 0), 6);
+        due("20: the first alone of three", x.heal(8, 50, 0), 1);
     }
 
     private static void promise21() {
