@@ -202,7 +202,7 @@ public final class FallWith {
         if (!acts.has(act) || !isWho(who)) {
             return UNKNOWN;
         }
-        if (!isDay(day) || i < EVERY_ONE) {
+        if (!isDay(day)) {
             return OUTSIDE;
         }
         if (!acts.wouldCount(act, who, day)) {
@@ -409,10 +409,11 @@ public final class FallWith {
         return steps;
     }
 
+    /** The acts of a step; NONE for each number that no step has, too small or too great. */
     private int stepAt(int act, int sound, int i) {
         int exempt = exempt();
         int left = acts.most(sound, exempt);
-        if (!contains(left, act) || i >= MOST_ACTS) {
+        if (!contains(left, act) || !within(i, 0, MOST_ACTS - 1)) {
             return NONE;
         }
         int step = 1 << act;

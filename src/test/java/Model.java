@@ -249,13 +249,13 @@ final class Model {
 
     int fall(int act, int who, int day, int i) {
         if (noAct(act) || noWho(who)) return UNKNOWN;
-        if (noDay(day) || i < -2) return OUTSIDE;
+        if (noDay(day)) return OUTSIDE;
         Asking q = new Asking(act, who, day);
         if (!wouldCount(q)) return NO;
         if (i == -2) return fallOf(q);
         List<Integer> steps = stepsOf(q);
         if (i == -1) return steps.size();
-        return i < steps.size() ? steps.get(i) : NONE;
+        return i >= 0 && i < steps.size() ? steps.get(i) : NONE;
     }
 
     private int backOf(Asking q, int whom) {

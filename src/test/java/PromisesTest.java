@@ -500,11 +500,12 @@ public final class PromisesTest {
         due("16: UNKNOWN ahead of OUTSIDE", x.fall(0, -1, 100, -3), UNKNOWN);
         due("16: day", x.fall(0, 0, 100, 0), OUTSIDE);
         due("16: day", x.fall(0, 0, -1, 0), OUTSIDE);
-        due("16: i", x.fall(0, 0, 9, -3), OUTSIDE);
-        due("16: i", x.fall(0, 0, 9, MIN_VALUE), OUTSIDE);
-        due("16: OUTSIDE ahead of NO", x.fall(0, 1, 9, -3), OUTSIDE);
+        due("16: OUTSIDE ahead of NO", x.fall(0, 1, 100, 0), OUTSIDE);
+        due("16: day ahead of a step that there is not", x.fall(0, 0, 100, -3), OUTSIDE);
         due("16: would not count", x.fall(0, 1, 9, 0), NO);
         due("16: would not count", x.fall(1, 1, 9, 50), NO);
+        due("16: would not count, no step below", x.fall(0, 1, 9, -3), NO);
+        due("16: would not count, no step below", x.fall(1, 0, 9, MIN_VALUE), NO);
         lean(x, 1, "a");
         lean(x, 2, "a");
         lean(x, 3, "b+c|e");
@@ -519,6 +520,8 @@ public final class PromisesTest {
         due("16: third", x.fall(0, 0, 9, 2), 8);
         due("16: no fourth", x.fall(0, 0, 9, 3), NONE);
         due("16: far", x.fall(0, 0, 9, MAX_VALUE), NONE);
+        due("16: no step below the first", x.fall(0, 0, 9, -3), NONE);
+        due("16: far below", x.fall(0, 0, 9, MIN_VALUE), NONE);
         due("16: all", x.fall(0, 0, 9, -2), 15);
         due("16: on its own day", x.fall(0, 0, 0, -2), 1);
         due("16: nothing was asked", x.told(1), 0);
@@ -529,6 +532,7 @@ public final class PromisesTest {
         due("16: did not stand", x.fall(0, 0, 9, -2), 0);
         due("16: no steps", x.fall(0, 0, 9, -1), 0);
         due("16: no first", x.fall(0, 0, 9, 0), NONE);
+        due("16: no steps, none below", x.fall(0, 0, 9, -3), NONE);
         due("16: stood the day ahead", x.fall(0, 0, 7, 0), 1);
         longFall();
     }
