@@ -8,22 +8,28 @@ public final class ModelTest {
     private final Model m = new Model();
     private final int mostActs;
     private final int days;
+    private final int oddOneIn;
 
-    private ModelTest(long seed, int mostActs, int days) {
+    private ModelTest(long seed, int mostActs, int days, int oddOneIn) {
         this.random = new Random(seed);
         this.mostActs = mostActs;
         this.days = days;
+        this.oddOneIn = oddOneIn;
     }
 
     public static void main(String[] args) {
         for (int seed = 0; seed < 2000; seed++) {
-            new ModelTest(seed, 2 + seed % 6, seed % 3 == 0 ? 99 : 12).run(200, seed % 2 == 0);
+            new ModelTest(seed, 2 + seed % 6, seed % 3 == 0 ? 99 : 12, 40).run(200, seed % 2 == 0);
         }
         for (int seed = 2000; seed < 2040; seed++) {
-            new ModelTest(seed, 9, 20).run(120, true);
+            new ModelTest(seed, 9, 20, 40).run(120, true);
         }
         for (int seed = 2040; seed < 2060; seed++) {
-            new ModelTest(seed, 12, 30).run(120, true);
+            new ModelTest(seed, 12, 30, 40).run(120, true);
+        }
+        // So many odd numbers that calls with two or three of them come too: which refusal is the first.
+        for (int seed = 2060; seed < 3060; seed++) {
+            new ModelTest(seed, 2 + seed % 5, 99, 3).run(250, seed % 2 == 0);
         }
         DUE.close();
     }
@@ -74,8 +80,8 @@ public final class ModelTest {
 
     /** Mostly a number that fits, now and then one beside its ends. */
     private int about(int least, int greatest) {
-        if (random.nextInt(40) == 0) {
-            int[] odd = {least - 1, greatest + 1, Integer.MIN_VALUE, Integer.MAX_VALUE, -3};
+        if (random.nextInt(oddOneIn) == 0) {
+            int[] odd = {least - 1, greatest + 1, Integer.MIN_VALUE, Integer.MAX_VALUE, -3, least + 256, greatest - 256, 65536};
             return odd[random.nextInt(odd.length)];
         }
         return least + random.nextInt(greatest - least + 1);
