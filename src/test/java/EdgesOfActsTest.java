@@ -109,7 +109,7 @@ public final class EdgesOfActsTest {
         x.act(0, 0, 1, 10);
         x.act(0, 1, 2, 10);
         Stories.lean(x, 1, "a");
-        for (int k = 5; k < 512; k++) {
+        for (int k = 6; k < 512; k++) {
             is("call " + k, x.all(k % 100, 1), 3);
         }
         is("the 512th call", x.set(0, 0, 1), 0);
@@ -223,7 +223,9 @@ public final class EdgesOfActsTest {
         }
         is("told", x.told(0), 12);
         refusedAct(Stories::full, 0, 0, 1, 0, FULL);
-        refusedAct(Stories::full, 99, 3, 2, 99, FULL);
+        refusedAct(Stories::fullOfActs, 99, 3, 2, 99, FULL);
+        is("twelve askings are no hindrance", Stories.after(Stories::fullOfAskings).act(0, 0, 1, 0), 5);
+        is("forty signs are no hindrance", Stories.after(Stories::fullOfSigns).act(0, 0, 1, 0), 5);
         for (int k = 0; k < 20; k++) {
             is("one more", x.act(0, 0, 1, 0), FULL);
         }
@@ -479,8 +481,10 @@ public final class EdgesOfActsTest {
         is("wiped", x.wipe(), 40);
         is("room again", x.say('a'), 1);
         edges.refused("say('a')", Stories::full, y -> y.say('a'), FULL);
-        edges.refused("say(33)", Stories::full, y -> y.say(33), FULL);
-        edges.refused("say(126)", Stories::full, y -> y.say(126), FULL);
+        edges.refused("say(33)", Stories::fullOfSigns, y -> y.say(33), FULL);
+        edges.refused("say(126)", Stories::fullOfSigns, y -> y.say(126), FULL);
+        is("twelve acts are no hindrance", Stories.after(Stories::fullOfActs).say('a'), 3);
+        is("twelve askings are no hindrance", Stories.after(Stories::fullOfAskings).say('a'), 3);
     }
 
     private static void firstRefusalOfSay() {

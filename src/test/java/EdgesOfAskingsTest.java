@@ -93,8 +93,10 @@ public final class EdgesOfAskingsTest {
             is("one more", x.ask(0, 0, 0), FULL);
         }
         is("told", x.told(1), 12);
-        refusedAsk(Stories::full, 0, 0, 0, FULL);
         refusedAsk(Stories::full, 11, 3, 99, FULL);
+        refusedAsk(Stories::fullOfAskings, 0, 0, 0, FULL);
+        is("twelve acts are no hindrance", Stories.after(Stories::fullOfActs).ask(11, 3, 99), 3);
+        is("forty signs are no hindrance", Stories.after(Stories::fullOfSigns).ask(0, 0, 0), 3);
     }
 
     private static void askingsThatDoNotCount() {

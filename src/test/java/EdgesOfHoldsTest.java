@@ -92,10 +92,11 @@ public final class EdgesOfHoldsTest {
     }
 
     private static void nothingDoes() {
+        refusedHeal(Stories::some, 16, 98, 0, NO);
+        refusedHeal(Stories::some, 31, 98, 1, NO);
+        refusedHeal(Stories::full, 4095, 32, 0, NO);
         FallWith x = new FallWith();
         x.act(50, 0, 1, 0);
-        refusedHeal(y -> y.act(50, 0, 1, 0), 1, 49, 0, NO);
-        refusedHeal(y -> y.act(50, 0, 1, 0), 1, 49, 1, NO);
         is("not done, none told", x.heal(0, 49, 0), 0);
         is("done", x.heal(1, 50, 0), 0);
         x.set(0, 0, 1);
@@ -115,18 +116,14 @@ public final class EdgesOfHoldsTest {
     }
 
     private static void firstRefusalOfHeal() {
-        Stories.Story never = x -> {
-            x.act(50, 0, 1, 0);
-            Stories.lean(x, 0, "l");
-        };
-        refusedHeal(never, 1, 50, 0, NO);
-        refusedHeal(never, 3, 50, 0, OUTSIDE);
-        refusedHeal(never, -1, 50, 1, OUTSIDE);
-        refusedHeal(never, 1, 100, 0, OUTSIDE);
-        refusedHeal(never, 1, -1, 1, OUTSIDE);
-        refusedHeal(never, 1, 50, 2, OUTSIDE);
-        refusedHeal(never, 1, 50, -1, OUTSIDE);
-        refusedHeal(never, 2, 100, 2, OUTSIDE);
+        refusedHeal(Stories::some, 16, 98, 0, NO);
+        refusedHeal(Stories::some, 48, 98, 0, OUTSIDE);
+        refusedHeal(Stories::some, -1, 98, 1, OUTSIDE);
+        refusedHeal(Stories::some, 16, 100, 0, OUTSIDE);
+        refusedHeal(Stories::some, 16, -1, 1, OUTSIDE);
+        refusedHeal(Stories::some, 16, 98, 2, OUTSIDE);
+        refusedHeal(Stories::some, 16, 98, -1, OUTSIDE);
+        refusedHeal(Stories::some, 32, 100, 2, OUTSIDE);
     }
 
     private static void noneAndTwelveToHeal() {

@@ -9,6 +9,7 @@ public final class ModelTest {
     private final int mostActs;
     private final int days;
     private final int oddOneIn;
+    private int made = 0;
 
     private ModelTest(long seed, int mostActs, int days, int oddOneIn) {
         this.random = new Random(seed);
@@ -38,10 +39,10 @@ public final class ModelTest {
         if (prepared) {
             prepare();
         }
-        for (int k = 0; k < mostActs * 2; k++) {
+        for (int k = 0; k < mostActs * 2 && isRoom(); k++) {
             tell();
         }
-        for (int k = 0; k < calls; k++) {
+        for (int k = 0; k < calls && isRoom(); k++) {
             if (random.nextInt(3) == 0) {
                 tell();
             } else {
@@ -58,7 +59,7 @@ public final class ModelTest {
         for (int k = 0; k < mostActs * 2 && m.acts.size() < mostActs; k++) {
             tellAct();
         }
-        for (int act = 0; act < m.acts.size(); act++) {
+        for (int act = 0; act < m.acts.size() && isRoom(); act++) {
             int flaw = random.nextInt(5);
             same("set", x.set(act, 0, flaw), m.set(act, 0, flaw), act, 0, flaw);
             if (random.nextInt(3) != 0) {
@@ -70,7 +71,13 @@ public final class ModelTest {
         }
     }
 
+    /** An object is used for at most 512 calls; the longest text and what is told at the end must still come. */
+    private boolean isRoom() {
+        return made < 512 - 72;
+    }
+
     private void same(String call, int got, int want, int... args) {
+        made++;
         StringBuilder b = new StringBuilder(call).append('(');
         for (int a : args) {
             b.append(a).append(' ');

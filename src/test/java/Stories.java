@@ -91,6 +91,30 @@ final class Stories {
         say(x, "a+b|".repeat(9) + "c+d|");
     }
 
+    /** Twelve acts, but room for askings and signs. */
+    static void fullOfActs(FallWith x) {
+        some(x);
+        for (int k = 5; k < 12; k++) {
+            x.act(30, 2, 1, 20);
+        }
+    }
+
+    /** Twelve askings, but room for acts and signs. */
+    static void fullOfAskings(FallWith x) {
+        some(x);
+        for (int k = 3; k < 12; k++) {
+            x.ask(1, 2, 35);
+        }
+    }
+
+    /** Forty signs, but room for acts and askings. */
+    static void fullOfSigns(FallWith x) {
+        some(x);
+        for (int k = 2; k < 40; k++) {
+            x.say('a');
+        }
+    }
+
     private static void many(FallWith x, int n) {
         for (int k = 0; k < n; k++) {
             x.act(k * 3, k % 4, (k + 1) % 4, 10 + k);

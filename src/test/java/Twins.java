@@ -76,22 +76,22 @@ final class Twins {
         }
     }
 
-    /** Looks at what is kept by putting something else in its place. */
+    /** Looks at what is kept by putting something else in its place; the signs come to light as a text. */
     private static void askKept(FallWith x, List<Integer> a) {
-        a.add(x.leans(0));
-        a.add(x.told(10));
-        a.add(x.under(0));
-        a.add(x.all(99, 1));
-        a.add(x.say('a'));
-        a.add(x.wipe());
-        a.add(x.law(0, 0));
-        a.add(x.law(1, 1));
         for (int act = 0; act < 12; act++) {
             for (int what = 0; what < 4; what++) {
                 a.add(x.set(act, what, what == 1 ? 99 : 0));
             }
             a.add(x.free(act));
         }
+        a.add(x.law(0, 0));
+        a.add(x.law(1, 1));
+        a.add(x.leans(0));
+        a.add(x.told(10));
+        a.add(x.under(0));
+        a.add(x.all(99, 1));
+        a.add(x.say('a'));
+        a.add(x.wipe());
         for (int k = 0; k < 13; k++) {
             a.add(x.drop());
         }
@@ -101,8 +101,8 @@ final class Twins {
 
     /** With neither text nor asking each act shows its DAY, and by what goes back its GIVER, TAKER and WORTH. */
     private static void askActs(FallWith x, List<Integer> a) {
-        while (x.drop() > 0) {
-            a.add(x.told(1));
+        for (int k = 0; k < 12; k++) {
+            a.add(x.drop());
         }
         for (int act = 0; act < 12; act++) {
             x.free(act);
